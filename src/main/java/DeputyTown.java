@@ -837,6 +837,10 @@ public final class DeputyTown {
                     frailSet = set;
                     frailUndone = undone;
                 }
+                // Only the USES of BROKEN THINGS can be UNDONE, so that none is worse than this.
+                if (undone == k) {
+                    return;
+                }
             }
         }
 
@@ -859,7 +863,7 @@ public final class DeputyTown {
             for (int t = 0; t < folk.count; t++) {
                 Thing thing = folk.thingAt(t);
                 int own = thing == null ? NONE : thing.deputy;
-                for (int other = 0; other < folk.count && thing != null; other++) {
+                for (int other = 0; other < folk.count && thing != null && mendUndone > 0; other++) {
                     if (other != t && other != own) {
                         thing.deputy = other;
                         seekFrail(2);

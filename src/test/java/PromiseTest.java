@@ -139,6 +139,7 @@ public final class PromiseTest {
         dueAt("e;t", -103);
         dueAt("e;t011;t011", -103);
         dueAt("e;t811;t011", -103);
+        dueAt("e;t811;x011", -103);
         dueAt("e;t/11;t011", -103);
         dueAt("e;t1", -104);
         dueAt("e;t101;t011", -104);
@@ -341,6 +342,7 @@ public final class PromiseTest {
         dueRow("the HOUR behind", x, 1, 0, 1, 2, 3);
         due("by: no USE", x.by(4, 30), UNKNOWN);
         due("by: below", x.by(-1, 0), UNKNOWN);
+        due("by: the last HOUR", x.by(3, 29), 3);
         due("by: HOUR above", x.by(0, 30), OUTSIDE);
         due("by: HOUR below", x.by(0, -1), OUTSIDE);
         due("by ahead of a TOWN", new DeputyTown().by(0, 0), UNKNOWN);
@@ -375,6 +377,12 @@ public final class PromiseTest {
         z.smash(1, 1, 1);
         z.smash(0, 1, 1);
         dueRow("who SERVES its own USE is free to stand in", z, 0, 1, 1, 2);
+        DeputyTown all = in("e;t311;t411;t311;t411;t311");
+        all.law(1);
+        for (int t = 0; t < 3; t++) {
+            all.smash(t, 0, 0);
+        }
+        dueRow("all others stand in already", all, 0, 3, 4, NONE, 3, 4);
     }
 
     private void byLawBest() {
@@ -472,6 +480,7 @@ public final class PromiseTest {
         due("all", x.ring(), 15);
         x.depute(3, 0);
         due("two", x.ring(), 9);
+        due("0 hangs on a ring", in("e;t111;t211;t111").ring(), 6);
         due("two rings", in("e;t111;t011;t311;t211;t011").ring(), 15);
         due("ring ahead of a TOWN", new DeputyTown().ring(), STATE);
     }
@@ -552,6 +561,11 @@ public final class PromiseTest {
         DeputyTown z = in("e;t311;t311;t011;t211;t311");
         z.law(1);
         due("the least of the fewest", z.plot(1), 7);
+        DeputyTown few = in("e;t111;t411;t311;t211;t211");
+        few.law(1);
+        few.reading(3, NONE);
+        due("fewer THINGS ahead of a lesser set", few.plot(3), 12);
+        due("so it is with READINGS", few.failed(1), 12);
     }
 
     private void mend() {
@@ -578,6 +592,14 @@ public final class PromiseTest {
         due("now", best.frail(2, 1), 2);
         due("the best mend", best.mend(0), 12);
         due("by it", best.mend(1), 0);
+        DeputyTown tie = in("e;t211;t211;t111");
+        tie.depute(0, 1);
+        due("0 -> 1 -> 2 -> 1: now", tie.frail(2, 1), 2);
+        due("0 -> 1 -> 2 -> 0 is the best", tie.mend(0), 20);
+        DeputyTown several = in("e;t211;t211;t111;t111");
+        due("0 -> 2 -> 1 -> 2: now", several.frail(2, 1), 2);
+        due("of several the least THING, then DEPUTY", several.mend(0), 10);
+        due("by it", several.mend(1), 0);
         DeputyTown far = in("e;t111;t211;t111;t511;t511;t411");
         due("two rings of two: now", far.frail(2, 1), 2);
         due("two rings of two: mend", far.mend(0), NONE);
@@ -650,7 +672,11 @@ public final class PromiseTest {
         due("roster: n 0", x.roster(0, 2, 3, 0), OUTSIDE);
         x.put(0, 1, 2);
         due("roster: no THING", x.roster(0, 2, 0, 2), UNKNOWN);
+        x.put(0, 0, 2);
+        x.put(0, 1, 1);
+        due("roster: the first no THING", x.roster(0, 2, 0, 2), UNKNOWN);
         x.put(0, 0, 1);
+        x.put(0, 1, 2);
         due("roster: UNKNOWN ahead of the first that is not", x.roster(0, 2, 0, 2), UNKNOWN);
         x.put(0, 1, -1);
         due("roster: -1 is no THING", x.roster(0, 2, 0, 2), UNKNOWN);
@@ -724,6 +750,12 @@ public final class PromiseTest {
         y.reading(0, 3);
         due("the least of the fewest", y.failed(1), 5);
         due("sets", y.failed(0), 2);
+        DeputyTown z = in("e;t211;t211;t111");
+        z.law(1);
+        z.reading(1, NONE);
+        due("{0, 1}, {1, 2}, {0, 1, 2}", z.failed(0), 3);
+        due("the least of two of two THINGS", z.failed(1), 3);
+        due("THING 1 in all of them", z.failed(2), 2);
     }
 
     private void laws() {
