@@ -1,12 +1,10 @@
 /** For each promise of the document: ordinary inputs, the edges that it names, and wrong inputs. */
 public final class PromiseTest {
-    private static final int UNKNOWN = -1, OUTSIDE = -2, STATE = -3, FULL = -4, NONE = -9;
-    private static final int NULL = -11, CAST = -12, INDEX = -13, SIZE = -14;
-    private static final long LOST = Long.MIN_VALUE;
-    private static final int MIN = Integer.MIN_VALUE, MAX = Integer.MAX_VALUE;
-
-    /** THINGS 0, 1, 2 stand in for one another in a ring; 3 hangs on 1. GOOD: 3, 4, 10, 2. */
-    private static final String RING_OF_THREE = "e;t132;s231;m042;t123";
+    private static final int UNKNOWN = Towns.UNKNOWN, OUTSIDE = Towns.OUTSIDE, STATE = Towns.STATE, FULL = Towns.FULL;
+    private static final int NONE = Towns.NONE, MIN = Towns.MIN, MAX = Towns.MAX;
+    private static final int NULL = Towns.NULL, CAST = Towns.CAST, INDEX = Towns.INDEX, SIZE = Towns.SIZE;
+    private static final long LOST = Towns.LOST;
+    private static final String RING_OF_THREE = Towns.RING_OF_THREE;
 
     private final Checks checks = new Checks();
 
@@ -63,24 +61,6 @@ public final class PromiseTest {
         checks.due(what, got, want);
     }
 
-    private static void write(DeputyTown x, int sheet, int lane, String text) {
-        x.sheet(sheet, lane, text.length());
-        for (int i = 0; i < text.length(); i++) {
-            x.put(sheet, i, text.charAt(i));
-        }
-    }
-
-    private static int townBy(DeputyTown x, String text) {
-        write(x, 3, 0, text);
-        return x.town(3, 0, 0, text.length());
-    }
-
-    private static DeputyTown in(String text) {
-        DeputyTown x = new DeputyTown();
-        townBy(x, text);
-        return x;
-    }
-
     private void dueRow(String what, DeputyTown x, int hour, int... want) {
         for (int use = 0; use < want.length; use++) {
             due(what + ": by(" + use + ", " + hour + ")", x.by(use, hour), want[use]);
@@ -89,7 +69,7 @@ public final class PromiseTest {
 
     private void dueAt(String text, long want) {
         DeputyTown x = new DeputyTown();
-        due("TEXT " + text, townBy(x, text), want);
+        due("TEXT " + text, Towns.townBy(x, text), want);
         due("THINGS by TEXT " + text, x.many(0), want < 0 ? 0 : want);
     }
 
@@ -120,7 +100,7 @@ public final class PromiseTest {
         dueAt("e;t111;t011", 2);
         dueAt("e;t711;t711;t711;t711;t711;t711;t711;t611", 8);
         DeputyTown x = new DeputyTown();
-        write(x, 0, 2, "??" + "e;t132;m098" + "e");
+        Towns.write(x, 0, 2, "??" + "e;t132;m098" + "e");
         due("a TEXT amid a row", x.town(0, 2, 2, 11), 2);
         due("its kind", x.ofThing(1, 0), 2);
         due("its FIT", x.ofThing(1, 2), 9);
@@ -173,10 +153,10 @@ public final class PromiseTest {
 
     private void townOfOddCodes() {
         DeputyTown x = new DeputyTown();
-        write(x, 0, 2, "e;t111;t011");
+        Towns.write(x, 0, 2, "e;t111;t011");
         x.put(0, 2, 116 + 256);
         due("a code that is no byte", x.town(0, 2, 0, 11), -102);
-        write(x, 0, 0, "e;t111;t011");
+        Towns.write(x, 0, 0, "e;t111;t011");
         x.put(0, 2, 116 + 256);
         due("a code cut to a byte", x.town(0, 0, 0, 11), 2);
         x.put(0, 0, -155);
@@ -214,17 +194,17 @@ public final class PromiseTest {
     }
 
     private void townMakesAllAnew() {
-        DeputyTown x = in(RING_OF_THREE);
+        DeputyTown x = Towns.in(RING_OF_THREE);
         x.law(2);
         x.smash(0, 0, 29);
         x.reading(0, 1);
         x.tell(0);
-        townBy(x, "e;t111;t01");
+        Towns.townBy(x, "e;t111;t01");
         due("a fault: THINGS stay", x.many(0), 4);
         due("a fault: BREAKS stay", x.many(1), 1);
         due("a fault: READINGS stay", x.many(2), 1);
         due("a fault: the LAW stays", x.many(3), 2);
-        due("taken", townBy(x, "e;s151;t061"), 2);
+        due("taken", Towns.townBy(x, "e;s151;t061"), 2);
         due("THINGS", x.many(0), 2);
         due("BREAKS", x.many(1), 0);
         due("READINGS", x.many(2), 0);
@@ -240,7 +220,7 @@ public final class PromiseTest {
     // ---- 3 to 7
 
     private void ofThing() {
-        DeputyTown x = in(RING_OF_THREE + ";s398");
+        DeputyTown x = Towns.in(RING_OF_THREE + ";s398");
         int[][] want = {{0, 1, 3, 2, 3}, {1, 2, 3, 1, 4}, {2, 0, 4, 2, 10}, {0, 1, 2, 3, 2}, {1, 3, 9, 8, 10}};
         for (int t = 0; t < want.length; t++) {
             for (int what = 0; what < 5; what++) {
@@ -253,14 +233,14 @@ public final class PromiseTest {
         due("ofThing: t below", x.ofThing(-1, 0), UNKNOWN);
         due("ofThing: NONE", x.ofThing(NONE, 0), UNKNOWN);
         due("ofThing: most", x.ofThing(MAX, 0), UNKNOWN);
-        due("GOOD of the best MAYOR", in("e;m199;m099").ofThing(0, 4), 20);
+        due("GOOD of the best MAYOR", Towns.in("e;m199;m099").ofThing(0, 4), 20);
     }
 
     private void law() {
         DeputyTown x = new DeputyTown();
         due("law ahead of a TOWN", x.law(1), STATE);
         due("OUTSIDE ahead of STATE", x.law(3), OUTSIDE);
-        townBy(x, RING_OF_THREE);
+        Towns.townBy(x, RING_OF_THREE);
         due("law(1)", x.law(1), 0);
         due("law(2)", x.law(2), 1);
         due("law(3)", x.law(3), OUTSIDE);
@@ -270,7 +250,7 @@ public final class PromiseTest {
     }
 
     private void depute() {
-        DeputyTown x = in(RING_OF_THREE);
+        DeputyTown x = Towns.in(RING_OF_THREE);
         due("depute(3, 0)", x.depute(3, 0), 1);
         due("its DEPUTY", x.ofThing(3, 1), 0);
         due("depute(3, 0) again", x.depute(3, 0), 0);
@@ -288,7 +268,7 @@ public final class PromiseTest {
     private void smash() {
         DeputyTown x = new DeputyTown();
         due("smash ahead of a TOWN", x.smash(0, 0, 0), UNKNOWN);
-        townBy(x, RING_OF_THREE);
+        Towns.townBy(x, RING_OF_THREE);
         due("smash: to below from", x.smash(0, 5, 4), OUTSIDE);
         due("smash: from below", x.smash(0, -1, 4), OUTSIDE);
         due("smash: to above", x.smash(0, 0, 30), OUTSIDE);
@@ -311,7 +291,7 @@ public final class PromiseTest {
     }
 
     private void glue() {
-        DeputyTown x = in(RING_OF_THREE);
+        DeputyTown x = Towns.in(RING_OF_THREE);
         x.smash(0, 0, 9);
         x.smash(1, 0, 9);
         x.smash(2, 0, 9);
@@ -330,7 +310,7 @@ public final class PromiseTest {
     // ---- 8 to 12
 
     private void byLawFirst() {
-        DeputyTown x = in(RING_OF_THREE);
+        DeputyTown x = Towns.in(RING_OF_THREE);
         dueRow("all WHOLE", x, 0, 0, 1, 2, 3);
         x.smash(0, 0, 0);
         x.smash(1, 0, 0);
@@ -346,7 +326,7 @@ public final class PromiseTest {
         due("by: HOUR above", x.by(0, 30), OUTSIDE);
         due("by: HOUR below", x.by(0, -1), OUTSIDE);
         due("by ahead of a TOWN", new DeputyTown().by(0, 0), UNKNOWN);
-        DeputyTown y = in("e;t111;t211;t111;t011");
+        DeputyTown y = Towns.in("e;t111;t211;t111;t011");
         y.smash(0, 0, 0);
         y.smash(1, 0, 0);
         dueRow("a row ends in a ring without the THING", y, 0, 2, 2, 2, 3);
@@ -358,7 +338,7 @@ public final class PromiseTest {
     }
 
     private void byLawOneEach() {
-        DeputyTown x = in(RING_OF_THREE);
+        DeputyTown x = Towns.in(RING_OF_THREE);
         x.law(1);
         x.smash(0, 0, 0);
         x.smash(1, 0, 0);
@@ -366,18 +346,18 @@ public final class PromiseTest {
         x.depute(1, 3);
         x.depute(3, 2);
         dueRow("3 is taken, 2 is free", x, 0, 3, 2, 2, 3);
-        DeputyTown y = in("e;t311;t311;t311;t211");
+        DeputyTown y = Towns.in("e;t311;t311;t311;t211");
         y.law(1);
         y.smash(0, 0, 0);
         y.smash(1, 0, 0);
         dueRow("the second of the row", y, 0, 3, 2, 2, 3);
-        DeputyTown z = in("e;t111;t211;t011");
+        DeputyTown z = Towns.in("e;t111;t211;t011");
         z.law(1);
         z.smash(0, 0, 0);
         z.smash(1, 1, 1);
         z.smash(0, 1, 1);
         dueRow("who SERVES its own USE is free to stand in", z, 0, 1, 1, 2);
-        DeputyTown all = in("e;t311;t411;t311;t411;t311");
+        DeputyTown all = Towns.in("e;t311;t411;t311;t411;t311");
         all.law(1);
         for (int t = 0; t < 3; t++) {
             all.smash(t, 0, 0);
@@ -386,7 +366,7 @@ public final class PromiseTest {
     }
 
     private void byLawBest() {
-        DeputyTown x = in("e;t155;s245;t355;m415;t095");
+        DeputyTown x = Towns.in("e;t155;s245;t355;m415;t095");
         x.law(2);
         x.smash(0, 0, 29);
         dueRow("the most GOOD", x, 0, 4, 1, 2, 3, 4);
@@ -396,7 +376,7 @@ public final class PromiseTest {
         due("the next of them", x.by(0, 0), 2);
         x.smash(2, 0, 0);
         due("the last", x.by(0, 0), 3);
-        DeputyTown y = in("e;t111;t291;t091");
+        DeputyTown y = Towns.in("e;t111;t291;t091");
         y.law(2);
         y.smash(0, 0, 29);
         dueRow("one for a time", y, 0, 1, 1, 2);
@@ -405,13 +385,13 @@ public final class PromiseTest {
     }
 
     private void tired() {
-        DeputyTown x = in("e;t112;t213;t014");
+        DeputyTown x = Towns.in("e;t112;t213;t014");
         x.smash(0, 0, 29);
         int[] want = {1, 1, 1, 2, 1, 1, 1, 2, 1};
         for (int hour = 0; hour < want.length; hour++) {
             due("1 LASTS 3: HOUR " + hour, x.by(0, hour), want[hour]);
         }
-        DeputyTown y = in("e;t112;t012");
+        DeputyTown y = Towns.in("e;t112;t012");
         y.smash(0, 0, 9);
         int[] alone = {1, 1, NONE, 1, 1, NONE, 1, 1, NONE, 1, 0};
         for (int hour = 0; hour < alone.length; hour++) {
@@ -424,7 +404,7 @@ public final class PromiseTest {
         for (int hour = 0; hour < rested.length; hour++) {
             due("an HOUR of rest: HOUR " + hour, y.by(0, hour), rested[hour]);
         }
-        DeputyTown z = in("e;t211;t211;t011");
+        DeputyTown z = Towns.in("e;t211;t211;t011");
         z.smash(0, 0, 1);
         z.smash(1, 1, 1);
         dueRow("2 is not TIRED yet", z, 0, 2, 1, 2);
@@ -437,7 +417,7 @@ public final class PromiseTest {
         DeputyTown x = new DeputyTown();
         due("undone ahead of a TOWN", x.undone(29), STATE);
         due("undone: OUTSIDE ahead of STATE", x.undone(30), OUTSIDE);
-        townBy(x, RING_OF_THREE);
+        Towns.townBy(x, RING_OF_THREE);
         due("undone: below", x.undone(-1), OUTSIDE);
         due("none", x.undone(0), 0);
         x.law(1);
@@ -455,7 +435,7 @@ public final class PromiseTest {
         DeputyTown x = new DeputyTown();
         due("serves ahead of a TOWN", x.serves(0), STATE);
         due("serves: OUTSIDE ahead of STATE", x.serves(-1), OUTSIDE);
-        townBy(x, RING_OF_THREE);
+        Towns.townBy(x, RING_OF_THREE);
         due("serves: above", x.serves(30), OUTSIDE);
         due("all by themselves", x.serves(29), 400);
         x.smash(0, 0, 0);
@@ -464,7 +444,7 @@ public final class PromiseTest {
         due("by a MAYOR: 99 at most", x.serves(0), 200 + 99 + 99);
         x.smash(2, 0, 0);
         due("three UNDONE", x.serves(0), 100);
-        DeputyTown y = in("e;t111;t091;m041");
+        DeputyTown y = Towns.in("e;t111;t091;m041");
         y.smash(0, 0, 0);
         due("FIT 9", y.serves(0), 290);
         y.depute(0, 2);
@@ -474,14 +454,14 @@ public final class PromiseTest {
     // ---- 11 to 16
 
     private void ring() {
-        DeputyTown x = in(RING_OF_THREE);
+        DeputyTown x = Towns.in(RING_OF_THREE);
         due("three", x.ring(), 7);
         x.depute(0, 3);
         due("all", x.ring(), 15);
         x.depute(3, 0);
         due("two", x.ring(), 9);
-        due("0 hangs on a ring", in("e;t111;t211;t111").ring(), 6);
-        due("two rings", in("e;t111;t011;t311;t211;t011").ring(), 15);
+        due("0 hangs on a ring", Towns.in("e;t111;t211;t111").ring(), 6);
+        due("two rings", Towns.in("e;t111;t011;t311;t211;t011").ring(), 15);
         due("ring ahead of a TOWN", new DeputyTown().ring(), STATE);
     }
 
@@ -489,7 +469,7 @@ public final class PromiseTest {
         DeputyTown x = new DeputyTown();
         due("first ahead of a TOWN", x.first(0), STATE);
         due("first: OUTSIDE ahead of STATE", x.first(2), OUTSIDE);
-        townBy(x, RING_OF_THREE);
+        Towns.townBy(x, RING_OF_THREE);
         due("first: below", x.first(-1), OUTSIDE);
         due("no HOUR", x.first(0), NONE);
         due("no USE", x.first(1), NONE);
@@ -498,7 +478,7 @@ public final class PromiseTest {
         x.smash(2, 29, 29);
         due("the last HOUR", x.first(0), 29);
         due("the least USE", x.first(1), 0);
-        DeputyTown y = in("e;t111;t012;t011");
+        DeputyTown y = Towns.in("e;t111;t012;t011");
         y.smash(0, 0, 1);
         y.smash(1, 3, 3);
         y.smash(0, 3, 3);
@@ -508,7 +488,7 @@ public final class PromiseTest {
         due("none by then", y.first(0), NONE);
         y.smash(0, 2, 9);
         due("TIRED in HOUR 2", y.first(0), 2);
-        DeputyTown z = in(RING_OF_THREE);
+        DeputyTown z = Towns.in(RING_OF_THREE);
         z.law(1);
         z.smash(0, 4, 5);
         z.smash(1, 5, 5);
@@ -519,7 +499,7 @@ public final class PromiseTest {
     private void frail() {
         DeputyTown x = new DeputyTown();
         due("frail: STATE ahead of OUTSIDE", x.frail(9, 9), STATE);
-        townBy(x, RING_OF_THREE);
+        Towns.townBy(x, RING_OF_THREE);
         int[] sets = {0, 1, 3, 7, 15};
         int[] counts = {0, 0, 0, 3, 4};
         for (int k = 0; k <= 4; k++) {
@@ -533,7 +513,7 @@ public final class PromiseTest {
         x.smash(0, 0, 29);
         x.smash(1, 0, 29);
         due("in place of all BREAKS", x.frail(1, 1), 0);
-        DeputyTown y = in("e;t111;t011;t311;t211");
+        DeputyTown y = Towns.in("e;t111;t011;t311;t211");
         due("two of a ring of two", y.frail(2, 0), 3);
         y.depute(0, 2);
         due("not the least set", y.frail(2, 0), 12);
@@ -543,7 +523,7 @@ public final class PromiseTest {
     }
 
     private void plot() {
-        DeputyTown x = in(RING_OF_THREE);
+        DeputyTown x = Towns.in(RING_OF_THREE);
         int[] want = {7, 7, 7, 15};
         for (int use = 0; use < 4; use++) {
             due("plot(" + use + ")", x.plot(use), want[use]);
@@ -554,14 +534,14 @@ public final class PromiseTest {
         x.smash(0, 0, 29);
         due("in place of all BREAKS", x.plot(0), 7);
         // Here 1 hangs on 2 alone, which by LAW 1 is taken if 0 is BROKEN.
-        DeputyTown y = in("e;t211;t211;t111");
+        DeputyTown y = Towns.in("e;t211;t211;t111");
         due("by LAW 0 both must be BROKEN", y.plot(1), 6);
         y.law(1);
         due("by LAW 1 another one takes it away", y.plot(1), 3);
-        DeputyTown z = in("e;t311;t311;t011;t211;t311");
+        DeputyTown z = Towns.in("e;t311;t311;t011;t211;t311");
         z.law(1);
         due("the least of the fewest", z.plot(1), 7);
-        DeputyTown few = in("e;t111;t411;t311;t211;t211");
+        DeputyTown few = Towns.in("e;t111;t411;t311;t211;t211");
         few.law(1);
         few.reading(3, NONE);
         due("fewer THINGS ahead of a lesser set", few.plot(3), 12);
@@ -572,7 +552,7 @@ public final class PromiseTest {
         DeputyTown x = new DeputyTown();
         due("mend ahead of a TOWN", x.mend(0), STATE);
         due("mend: OUTSIDE ahead of STATE", x.mend(2), OUTSIDE);
-        townBy(x, RING_OF_THREE);
+        Towns.townBy(x, RING_OF_THREE);
         due("mend: below", x.mend(-1), OUTSIDE);
         due("by none there are fewer", x.mend(0), NONE);
         due("as now", x.mend(1), 0);
@@ -585,29 +565,29 @@ public final class PromiseTest {
         x.smash(0, 0, 29);
         x.smash(1, 0, 29);
         due("in place of all BREAKS", x.mend(0), 3);
-        DeputyTown two = in("e;t111;t011");
+        DeputyTown two = Towns.in("e;t111;t011");
         due("no other DEPUTY: mend", two.mend(0), NONE);
         due("no other DEPUTY: UNDONE", two.mend(1), 2);
-        DeputyTown best = in("e;t111;t011;t011;t011");
+        DeputyTown best = Towns.in("e;t111;t011;t011;t011");
         due("now", best.frail(2, 1), 2);
         due("the best mend", best.mend(0), 12);
         due("by it", best.mend(1), 0);
-        DeputyTown tie = in("e;t211;t211;t111");
+        DeputyTown tie = Towns.in("e;t211;t211;t111");
         tie.depute(0, 1);
         due("0 -> 1 -> 2 -> 1: now", tie.frail(2, 1), 2);
         due("0 -> 1 -> 2 -> 0 is the best", tie.mend(0), 20);
-        DeputyTown several = in("e;t211;t211;t111;t111");
+        DeputyTown several = Towns.in("e;t211;t211;t111;t111");
         due("0 -> 2 -> 1 -> 2: now", several.frail(2, 1), 2);
         due("of several the least THING, then DEPUTY", several.mend(0), 10);
         due("by it", several.mend(1), 0);
-        DeputyTown far = in("e;t111;t211;t111;t511;t511;t411");
+        DeputyTown far = Towns.in("e;t111;t211;t111;t511;t511;t411");
         due("two rings of two: now", far.frail(2, 1), 2);
         due("two rings of two: mend", far.mend(0), NONE);
         due("two rings of two: as now", far.mend(1), 2);
     }
 
     private void wave() {
-        DeputyTown x = in(RING_OF_THREE);
+        DeputyTown x = Towns.in(RING_OF_THREE);
         int[] want = {1060, 1001, 1070, 1060};
         for (int t = 0; t < 4; t++) {
             due("wave(" + t + ")", x.wave(t), want[t]);
@@ -619,13 +599,13 @@ public final class PromiseTest {
         due("wave: above", x.wave(4), UNKNOWN);
         due("wave: below", x.wave(-1), UNKNOWN);
         due("wave ahead of a TOWN", new DeputyTown().wave(0), UNKNOWN);
-        DeputyTown y = in("e;t111;t211;m191");
+        DeputyTown y = Towns.in("e;t111;t211;m191");
         y.smash(0, 0, 0);
         due("more SERVES than before", y.wave(1), 1000 + 210 - (99 + 99 + 100));
     }
 
     private void roster() {
-        DeputyTown x = in(RING_OF_THREE);
+        DeputyTown x = Towns.in(RING_OF_THREE);
         x.smash(0, 0, 0);
         x.sheet(0, 1, 5);
         x.put(0, 1, 1);
@@ -655,7 +635,7 @@ public final class PromiseTest {
         due("roster: LANE ahead of STATE", x.roster(0, 3, 0, 0), OUTSIDE);
         due("roster: STATE ahead of NULL", x.roster(0, 2, 0, 0), STATE);
         due("no FAULT", x.fault(), 0);
-        townBy(x, "e;t111;t011");
+        Towns.townBy(x, "e;t111;t011");
         due("roster: NULL", x.roster(0, 2, -1, -1), NULL);
         due("its FAULT", x.fault(), 1);
         x.sheet(0, 2, 3);
@@ -689,7 +669,7 @@ public final class PromiseTest {
     private void reading() {
         DeputyTown x = new DeputyTown();
         due("reading ahead of a TOWN", x.reading(0, NONE), UNKNOWN);
-        townBy(x, RING_OF_THREE);
+        Towns.townBy(x, RING_OF_THREE);
         due("reading: no USE", x.reading(4, 0), UNKNOWN);
         due("reading: USE below", x.reading(-1, 0), UNKNOWN);
         due("reading: USE NONE", x.reading(NONE, 0), UNKNOWN);
@@ -706,7 +686,7 @@ public final class PromiseTest {
     }
 
     private void back() {
-        DeputyTown x = in(RING_OF_THREE);
+        DeputyTown x = Towns.in(RING_OF_THREE);
         x.reading(0, 1);
         x.reading(0, 2);
         due("back(-1)", x.back(-1), OUTSIDE);
@@ -723,7 +703,7 @@ public final class PromiseTest {
         DeputyTown x = new DeputyTown();
         due("failed ahead of a TOWN", x.failed(0), STATE);
         due("failed: OUTSIDE ahead of STATE", x.failed(3), OUTSIDE);
-        townBy(x, RING_OF_THREE);
+        Towns.townBy(x, RING_OF_THREE);
         due("failed: below", x.failed(-1), OUTSIDE);
         due("no READINGS: all sets", x.failed(0), 16);
         due("no READINGS: the least", x.failed(1), 0);
@@ -745,12 +725,12 @@ public final class PromiseTest {
         x.law(2);
         x.reading(0, 1);
         due("by LAW 2", x.failed(1), 5);
-        DeputyTown y = in("e;t211;t211;t311;t211");
+        DeputyTown y = Towns.in("e;t211;t211;t311;t211");
         y.law(1);
         y.reading(0, 3);
         due("the least of the fewest", y.failed(1), 5);
         due("sets", y.failed(0), 2);
-        DeputyTown z = in("e;t211;t211;t111");
+        DeputyTown z = Towns.in("e;t211;t211;t111");
         z.law(1);
         z.reading(1, NONE);
         due("{0, 1}, {1, 2}, {0, 1, 2}", z.failed(0), 3);
@@ -761,7 +741,7 @@ public final class PromiseTest {
     private void laws() {
         DeputyTown x = new DeputyTown();
         due("laws ahead of a TOWN", x.laws(), STATE);
-        townBy(x, RING_OF_THREE);
+        Towns.townBy(x, RING_OF_THREE);
         due("no READINGS", x.laws(), 7);
         x.smash(0, 0, 0);
         x.reading(0, 1);
@@ -781,7 +761,7 @@ public final class PromiseTest {
     }
 
     private void odds() {
-        DeputyTown x = in(RING_OF_THREE);
+        DeputyTown x = Towns.in(RING_OF_THREE);
         due("odds(0, 0)", x.odds(0, 0), 7);
         due("odds(0, 1)", x.odds(0, 1), 8);
         due("odds(3, 0)", x.odds(3, 0), 15);
@@ -793,7 +773,7 @@ public final class PromiseTest {
         due("odds: which above", x.odds(0, 2), LOST);
         due("odds: which below", x.odds(0, -1), LOST);
         due("odds ahead of a TOWN", new DeputyTown().odds(0, 0), LOST);
-        DeputyTown y = in("e;t111;t011;t011");
+        DeputyTown y = Towns.in("e;t111;t011;t011");
         due("in least terms: upper", y.odds(0, 0), 3);
         due("in least terms: lower", y.odds(0, 1), 4);
         y.law(1);
@@ -945,7 +925,7 @@ public final class PromiseTest {
     // ---- 28 to 33
 
     private void tellAndTrace() {
-        DeputyTown x = in(RING_OF_THREE);
+        DeputyTown x = Towns.in(RING_OF_THREE);
         due("tell a THING", x.tell(0), 3);
         due("trace 1", x.trace(), 1);
         due("tell a SWORN one", x.tell(1), 103);
@@ -968,7 +948,7 @@ public final class PromiseTest {
     }
 
     private void call() {
-        DeputyTown x = in(RING_OF_THREE);
+        DeputyTown x = Towns.in(RING_OF_THREE);
         due("call a THING", x.call(0), 0);
         due("trace 4", x.trace(), 4);
         due("call a SWORN one", x.call(1), 1);
@@ -982,7 +962,7 @@ public final class PromiseTest {
     }
 
     private void as() {
-        DeputyTown x = in(RING_OF_THREE);
+        DeputyTown x = Towns.in(RING_OF_THREE);
         for (int t = 0; t < 3; t++) {
             for (int kind = 0; kind < 3; kind++) {
                 due("as(" + t + ", " + kind + ")", x.as(t, kind), kind <= t ? 1 : CAST);
@@ -998,7 +978,7 @@ public final class PromiseTest {
     }
 
     private void fault() {
-        DeputyTown x = in(RING_OF_THREE);
+        DeputyTown x = Towns.in(RING_OF_THREE);
         x.as(0, 2);
         x.tell(0);
         x.ofThing(9, 0);
@@ -1037,7 +1017,7 @@ public final class PromiseTest {
     }
 
     private void many() {
-        DeputyTown x = in(RING_OF_THREE);
+        DeputyTown x = Towns.in(RING_OF_THREE);
         x.smash(0, 0, 0);
         x.smash(0, 0, 0);
         x.reading(0, 0);
