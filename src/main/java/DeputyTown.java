@@ -286,7 +286,7 @@ public final class DeputyTown {
         int upper = trials.setsThatServe(use);
         int lower = folk.sets();
         // The lower number is a power of two: nothing but twos can be common to both.
-        while (lower > 1 && upper % 2 == 0) {
+        for (int step = 0; step < MOST_THINGS && lower > 1 && upper % 2 == 0; step++) {
             upper /= 2;
             lower /= 2;
         }

@@ -23,6 +23,7 @@ public final class FaceTest {
         FaceTest test = new FaceTest();
         test.face();
         test.nestedClasses();
+        test.headings();
         test.words();
         test.lengths();
         test.room();
@@ -95,6 +96,26 @@ public final class FaceTest {
                 checks.holds(f + " is no static state", !Modifier.isStatic(f.getModifiers()) || Modifier.isFinal(f.getModifiers()));
             }
         }
+    }
+
+    /** "Ahead of the calls .. the interface says: ----": each call stands behind its heading, ahead of the next one. */
+    private void headings() throws Exception {
+        String source = Files.readString(SOURCE, StandardCharsets.UTF_8);
+        Matcher told = Pattern.compile("(?m)^Ahead of the calls (.*) the interface says: (---- .*)\\.$")
+                .matcher(Files.readString(DOC, StandardCharsets.UTF_8));
+        int calls = 0;
+        while (told.find()) {
+            int from = source.indexOf("    // " + told.group(2) + "\n");
+            checks.holds("the heading " + told.group(2), from >= 0);
+            int to = source.indexOf("    // ----", from + 1);
+            Matcher call = Pattern.compile("`(\\w+)`").matcher(told.group(1));
+            for (; call.find(); calls++) {
+                int at = Math.max(source.indexOf("    public int " + call.group(1) + "("),
+                        source.indexOf("    public long " + call.group(1) + "("));
+                checks.holds(call.group(1) + " under " + told.group(2), from < at && at < to);
+            }
+        }
+        checks.due("calls under a heading", calls, 32);
     }
 
     private static int fieldsOf(Class<?> c) {

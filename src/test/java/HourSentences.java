@@ -23,14 +23,6 @@ final class HourSentences {
         }
     }
 
-    private static void smashAll(DeputyTown x, int set, int from, int to) {
-        for (int t = 0; t < 8; t++) {
-            if ((set >> t & 1) != 0) {
-                x.smash(t, from, to);
-            }
-        }
-    }
-
     private void by() {
         s.test(8, "By which THING a USE is SERVED in an HOUR", () -> {
             DeputyTown x = Towns.in(Towns.RING_OF_EIGHT);
@@ -41,7 +33,7 @@ final class HourSentences {
         });
         s.test(8, "NONE: it is UNDONE", () -> {
             DeputyTown x = Towns.in(Towns.plain(2));
-            smashAll(x, 3, 29, 29);
+            Towns.smashAll(x, 3, 29, 29);
             dueRow("both BROKEN", x, 29, Towns.NONE, Towns.NONE);
             dueRow("none BROKEN", x, 28, 0, 1);
         });
@@ -49,13 +41,13 @@ final class HourSentences {
             s.due("the constant", DeputyTown.NONE, -9);
             DeputyTown x = Towns.in(Towns.plain(2));
             s.due("first(0)", x.first(0), -9);
-            smashAll(x, 3, 0, 0);
+            Towns.smashAll(x, 3, 0, 0);
             s.due("by(0, 0)", x.by(0, 0), -9);
         });
         s.test(8, "HOURS 0 .. 29.", () -> {
             DeputyTown x = Towns.in(Towns.plain(2));
-            smashAll(x, 1, 0, 0);
-            smashAll(x, 1, 29, 29);
+            Towns.smashAll(x, 1, 0, 0);
+            Towns.smashAll(x, 1, 29, 29);
             s.due("HOUR -1", x.by(0, -1), Towns.OUTSIDE);
             s.due("HOUR 0", x.by(0, 0), 1);
             s.due("HOUR 1", x.by(0, 1), 0);
@@ -87,11 +79,11 @@ final class HourSentences {
             ring.smash(7, 0, 0);
             dueRow("all BROKEN", ring, 0, -9, -9, -9, -9, -9, -9, -9, -9);
             DeputyTown hangs = Towns.in("e;t111;t211;t311;t211;t011");
-            smashAll(hangs, 14, 0, 0);
+            Towns.smashAll(hangs, 14, 0, 0);
             dueRow("1, 2, 3 BROKEN: no row of theirs leaves their ring", hangs, 0, 0, -9, -9, -9, 4);
-            smashAll(hangs, 16, 0, 0);
+            Towns.smashAll(hangs, 16, 0, 0);
             s.due("0 is the first in the row of 4", hangs.by(4, 0), 0);
-            smashAll(hangs, 1, 0, 0);
+            Towns.smashAll(hangs, 1, 0, 0);
             dueRow("all BROKEN", hangs, 0, -9, -9, -9, -9, -9);
             hangs.glue(3);
             hangs.smash(0, 0, 0);
@@ -117,29 +109,29 @@ final class HourSentences {
     private void laws() {
         s.test(8, "by LAW 0 the first of these stands in", () -> {
             DeputyTown x = Towns.in("e;t111;t211;m391;m091");
-            smashAll(x, 1, 0, 0);
+            Towns.smashAll(x, 1, 0, 0);
             dueRow("the DEPUTY", x, 0, 1, 1, 2, 3);
-            smashAll(x, 2, 0, 0);
+            Towns.smashAll(x, 2, 0, 0);
             dueRow("one stands in for two", x, 0, 2, 2, 2, 3);
-            smashAll(x, 4, 0, 0);
+            Towns.smashAll(x, 4, 0, 0);
             dueRow("one stands in for three", x, 0, 3, 3, 3, 3);
         });
         s.test(8, "by LAW 1 the first of these that stands in for no USE of a lesser number in that HOUR (nobody, if all of these do)", () -> {
             DeputyTown x = Towns.in("e;t311;t311;t311;t411;t011");
             x.law(1);
-            smashAll(x, 7, 0, 0);
+            Towns.smashAll(x, 7, 0, 0);
             dueRow("3, then 4, then nobody", x, 0, 3, 4, -9, 3, 4);
             x.glue(1);
-            smashAll(x, 8, 0, 0);
+            Towns.smashAll(x, 8, 0, 0);
             // The row of 3 is 4, 0: USE 0 has taken 4, USE 1 is left with nobody, and so is USE 3.
             dueRow("all take 4", x, 0, 4, -9, 2, -9, 4);
             DeputyTown lesser = Towns.in("e;t111;t211;t111");
             lesser.law(1);
-            smashAll(lesser, 5, 0, 0);
+            Towns.smashAll(lesser, 5, 0, 0);
             dueRow("only the lesser USE goes ahead", lesser, 0, 1, 1, -9);
             DeputyTown own = Towns.in("e;t111;t211;t011");
             own.law(1);
-            smashAll(own, 4, 0, 0);
+            Towns.smashAll(own, 4, 0, 0);
             dueRow("who SERVES its own USE is free", own, 0, 0, 1, 0);
             DeputyTown then = Towns.in("e;t212;t212;t012");
             then.law(1);
@@ -155,25 +147,25 @@ final class HourSentences {
         s.test(8, "by LAW 2 the most GOOD (of several the first in the row)", () -> {
             DeputyTown x = Towns.in("e;t113;s243;t353;m413;t511;t021");
             x.law(2);
-            smashAll(x, 1, 0, 0);
+            Towns.smashAll(x, 1, 0, 0);
             s.due("of GOOD 5, 5, 4, 1, 2 the first", x.by(0, 0), 1);
-            smashAll(x, 2, 0, 0);
+            Towns.smashAll(x, 2, 0, 0);
             s.due("of GOOD 5, 4, 1, 2 the first", x.by(0, 0), 2);
-            smashAll(x, 4, 0, 0);
+            Towns.smashAll(x, 4, 0, 0);
             s.due("of GOOD 4, 1, 2 the first", x.by(0, 0), 3);
-            smashAll(x, 8, 0, 0);
+            Towns.smashAll(x, 8, 0, 0);
             s.due("of GOOD 1, 2 the last", x.by(0, 0), 5);
-            smashAll(x, 32, 0, 0);
+            Towns.smashAll(x, 32, 0, 0);
             s.due("of GOOD 1 that one", x.by(0, 0), 4);
             DeputyTown kinds = Towns.in("e;t111;t291;s391;m041");
             kinds.law(2);
-            smashAll(kinds, 1, 0, 0);
+            Towns.smashAll(kinds, 1, 0, 0);
             s.due("by GOOD, not by FIT: a SWORN one of 10 ahead of a MAYOR of 10", kinds.by(0, 0), 2);
-            smashAll(kinds, 4, 0, 0);
+            Towns.smashAll(kinds, 4, 0, 0);
             s.due("a MAYOR of 10 ahead of a THING of 9", kinds.by(0, 0), 3);
             DeputyTown both = Towns.in("e;t211;t211;t191");
             both.law(2);
-            smashAll(both, 3, 0, 0);
+            Towns.smashAll(both, 3, 0, 0);
             dueRow("one stands in for two", both, 0, 2, 2, 2);
         });
     }
@@ -227,9 +219,9 @@ final class HourSentences {
         s.test(9, "USES that are UNDONE in an HOUR, as a set.", () -> {
             DeputyTown x = Towns.in("e;t111;t011;t311;t211");
             s.due("none", x.undone(5), 0);
-            smashAll(x, 3, 5, 5);
+            Towns.smashAll(x, 3, 5, 5);
             s.due("0 and 1", x.undone(5), 3);
-            smashAll(x, 12, 5, 6);
+            Towns.smashAll(x, 12, 5, 6);
             s.due("all", x.undone(5), 15);
             s.due("2 and 3", x.undone(6), 12);
             s.due("the HOUR ahead", x.undone(4), 0);
@@ -240,7 +232,7 @@ final class HourSentences {
                 DeputyTown x = Towns.in(Towns.plain(8));
                 int deputy = k == 0 ? 1 : 0;
                 x.depute(deputy, k);
-                smashAll(x, 1 << k | 1 << deputy, 9, 9);
+                Towns.smashAll(x, 1 << k | 1 << deputy, 9, 9);
                 s.due("UNDONE " + k + " and " + deputy, x.undone(9), 1 << k | 1 << deputy);
                 s.due("RING of " + k + " and " + deputy, x.ring(), 1 << k | 1 << deputy);
             }
@@ -270,7 +262,7 @@ final class HourSentences {
             for (int things = 2; things <= 8; things++) {
                 DeputyTown x = Towns.in(Towns.plain(things));
                 s.due(things + " THINGS", x.serves(0), 100 * things);
-                smashAll(x, (1 << things) - 1, 0, 0);
+                Towns.smashAll(x, (1 << things) - 1, 0, 0);
                 s.due("all UNDONE", x.serves(0), 0);
             }
             for (int fit = 1; fit <= 9; fit++) {

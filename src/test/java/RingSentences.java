@@ -20,14 +20,6 @@ final class RingSentences {
         part.rosterRefusals();
     }
 
-    private static void smashAll(DeputyTown x, int set, int from, int to) {
-        for (int t = 0; t < 8; t++) {
-            if ((set >> t & 1) != 0) {
-                x.smash(t, from, to);
-            }
-        }
-    }
-
     // ---- promises 11 and 12
 
     private void ring() {
@@ -53,7 +45,7 @@ final class RingSentences {
             DeputyTown x = Towns.in(Towns.RING_OF_EIGHT);
             s.due("first(0): none is", x.first(0), Towns.NONE);
             s.due("first(1): none is", x.first(1), Towns.NONE);
-            smashAll(x, 127, 0, 29);
+            Towns.smashAll(x, 127, 0, 29);
             s.due("first(0): one that LASTS 1 for all", x.first(0), 1);
             s.due("first(1): one that LASTS 1 for all", x.first(1), 0);
             x.smash(7, 0, 0);
@@ -63,15 +55,15 @@ final class RingSentences {
         s.test(12, "FIRST UNDONE: the first HOUR in which a USE is UNDONE; the least of them.", () -> {
             for (int hour = 0; hour < Towns.HOURS; hour++) {
                 DeputyTown x = Towns.in("e;t111;t211;t111;t411;t311");
-                smashAll(x, 6, hour, hour);
+                Towns.smashAll(x, 6, hour, hour);
                 s.due("HOUR " + hour, x.first(0), hour);
                 s.due("USE in HOUR " + hour, x.first(1), 1);
-                smashAll(x, 24, Math.max(hour - 1, 0), hour);
+                Towns.smashAll(x, 24, Math.max(hour - 1, 0), hour);
                 s.due("HOUR ahead of " + hour, x.first(0), Math.max(hour - 1, 0));
                 s.due("USE in the HOUR ahead of " + hour, x.first(1), hour > 0 ? 3 : 1);
             }
             DeputyTown last = Towns.in("e;t111;t211;t311;t411;t511;t611;t711;t611");
-            smashAll(last, 192, 29, 29);
+            Towns.smashAll(last, 192, 29, 29);
             s.due("the last HOUR", last.first(0), 29);
             s.due("the last two USES", last.first(1), 6);
             DeputyTown tired = Towns.in("e;t111;t019");
@@ -79,6 +71,12 @@ final class RingSentences {
             s.due("nobody is TIRED", tired.first(0), Towns.NONE);
             tired.smash(0, 29, 29);
             s.due("TIRED in the last HOUR", tired.first(0), 29);
+            DeputyTown asked = Towns.in(Towns.plain(2));
+            asked.smash(0, 0, 29);
+            for (int hour = 0; hour < Towns.HOURS; hour++) {
+                s.due("1 LASTS 1, HOUR " + hour, asked.by(0, hour), hour % 2 == 0 ? 1 : Towns.NONE);
+                s.due("nobody is TIRED in HOUR 0, whatever was asked", asked.first(0), 1);
+            }
         });
         s.test(12, "OUTSIDE", () -> {
             DeputyTown x = Towns.in(Towns.plain(2));
@@ -106,7 +104,7 @@ final class RingSentences {
         });
         s.test(13, "FRAIL for k: the THINGS of which so many (k), all BROKEN in one HOUR (HOUR 0; in place of all BREAKS), leave the most USES UNDONE: as a set: of several the least.", () -> {
             DeputyTown x = Towns.in(Towns.RING_OF_EIGHT);
-            smashAll(x, 254, 0, 29);
+            Towns.smashAll(x, 254, 0, 29);
             for (int k = 0; k < 8; k++) {
                 s.due("the least of " + k, x.frail(k, 0), (1 << k) - 1);
                 s.due("by so few none", x.frail(k, 1), 0);
@@ -168,7 +166,7 @@ final class RingSentences {
         });
         s.test(14, "PLOT on a USE: the fewest THINGS to be BROKEN in HOUR 0 (in place of all BREAKS) so that it is UNDONE: as a set: of several the least", () -> {
             DeputyTown x = Towns.in(Towns.RING_OF_EIGHT);
-            smashAll(x, 255, 0, 29);
+            Towns.smashAll(x, 255, 0, 29);
             s.due("all must be BROKEN", x.plot(3), 255);
             DeputyTown few = Towns.in("e;t111;t411;t311;t211;t211");
             few.law(1);
@@ -234,6 +232,11 @@ final class RingSentences {
             s.due("a ring of two and one that hangs on it: now", three.frail(2, 1), 2);
             s.due("0 -> 2 -> 0 is no better, 1 -> 2 -> 0 -> 1 is", three.mend(0), 12);
             s.due("UNDONE then", three.mend(1), 0);
+            three.depute(1, 2);
+            s.due("once it is changed, by none there are fewer", three.mend(0), Towns.NONE);
+            s.due("once it is changed, as now", three.mend(1), 0);
+            DeputyTown zero = Towns.in("e;t111;t011;t011;t111");
+            s.due("0 -> 3 -> 1 -> 0, the least THING", zero.mend(0), 3);
             DeputyTown tie = Towns.in("e;t211;t211;t111;t111");
             s.due("the least THING, then DEPUTY", tie.mend(0), 10);
             dueDeputiesStay(tie, 2, 2, 1, 1);
@@ -244,7 +247,7 @@ final class RingSentences {
             s.due("UNDONE then", ring.mend(1), 0);
             ring.depute(0, 3);
             s.due("by 0 -> 3: now", ring.frail(2, 1), 1);
-            smashAll(ring, 15, 0, 29);
+            Towns.smashAll(ring, 15, 0, 29);
             s.due("in place of all BREAKS", ring.frail(2, 1), 1);
             s.due("in place of all BREAKS: mend", ring.mend(1), 0);
         });
@@ -338,15 +341,15 @@ final class RingSentences {
             DeputyTown x = Towns.in(Towns.plain(3));
             cells(x, 0, 0, 0, 1, 2);
             s.due("all WHOLE", x.roster(0, 0, 0, 3), Towns.NONE);
-            smashAll(x, 1, 0, 0);
+            Towns.smashAll(x, 1, 0, 0);
             s.due("0 is BROKEN", x.roster(0, 0, 0, 3), 0);
             cells(x, 0, 0, 1, 1, 2);
             s.due("0 by 1", x.roster(0, 0, 0, 3), Towns.NONE);
-            smashAll(x, 6, 0, 0);
+            Towns.smashAll(x, 6, 0, 0);
             cells(x, 0, 0, Towns.NONE, Towns.NONE, Towns.NONE);
             s.due("all UNDONE", x.roster(0, 0, 0, 3), Towns.NONE);
             x.glue(3);
-            smashAll(x, 7, 1, 29);
+            Towns.smashAll(x, 7, 1, 29);
             cells(x, 0, 0, 0, 1, 2);
             s.due("BREAKS of other HOURS", x.roster(0, 0, 0, 3), Towns.NONE);
         });

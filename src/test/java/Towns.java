@@ -33,6 +33,15 @@ final class Towns {
         return x;
     }
 
+    /** The THINGS of a set are BROKEN from an HOUR to another one. */
+    static void smashAll(DeputyTown x, int set, int from, int to) {
+        for (int t = 0; t < 8; t++) {
+            if ((set >> t & 1) != 0) {
+                x.smash(t, from, to);
+            }
+        }
+    }
+
     /** So many THINGS, each plain, FIT and LASTS 1, with the first other one for its DEPUTY. */
     static String plain(int things) {
         StringBuilder text = new StringBuilder("e");
