@@ -6,7 +6,10 @@ import java.lang.reflect.Modifier;
 import java.nio.charset.StandardCharsets;
 import java.nio.file.Files;
 import java.nio.file.Path;
+import java.util.Arrays;
+import java.util.Map;
 import java.util.Set;
+import java.util.TreeMap;
 import java.util.TreeSet;
 import java.util.regex.Matcher;
 import java.util.regex.Pattern;
@@ -15,17 +18,21 @@ import java.util.regex.Pattern;
 public final class FaceTest {
     private static final Path DOC = Path.of("../shared/DOC.md");
     private static final Path SOURCE = Path.of("src/main/java/DeputyTown.java");
-    private static final int LONGEST_METHOD = 60, MOST_CLASSES = 12, MOST_FIELDS = 20;
+    private static final int LONGEST_METHOD = 60, MOST_CLASSES = 12, MOST_FIELDS = 20, DEEPEST_CALL = 8;
+    /** The first line of a method or a constructor, of the class or of one inside it: its indent, its name. */
+    private static final Pattern HEAD = Pattern.compile("^( {4}(?! )| {8}(?! ))[\\w\\[\\] ]*?(\\w+)\\([^;]*\\) \\{$");
 
     private final Checks checks = new Checks();
 
     public static void main(String[] args) throws Exception {
         FaceTest test = new FaceTest();
         test.face();
+        test.constants();
         test.nestedClasses();
         test.headings();
         test.words();
         test.lengths();
+        test.depth();
         test.room();
         test.checks.end();
     }
@@ -58,21 +65,12 @@ public final class FaceTest {
         }
         Set<String> want = faceOfDoc();
         checks.due("methods of the document", want.size(), 32);
+        namesOfNumbers();
         checks.holds("the methods are " + face + ", due are " + want, face.equals(want));
         for (Method m : c.getDeclaredMethods()) {
             checks.holds(m + " is public or private", Modifier.isPublic(m.getModifiers()) || Modifier.isPrivate(m.getModifiers()));
             checks.holds(m + " has a name of its own", Modifier.isPublic(m.getModifiers()) || !names.contains(m.getName()));
         }
-        Set<String> constants = new TreeSet<>();
-        for (Field f : c.getDeclaredFields()) {
-            if (!Modifier.isPrivate(f.getModifiers())) {
-                constants.add(f.getType().getName() + " " + f.getName());
-                checks.holds(f + " is public, static, final", Modifier.isPublic(f.getModifiers())
-                        && Modifier.isStatic(f.getModifiers()) && Modifier.isFinal(f.getModifiers()));
-            }
-        }
-        checks.holds("the constants are " + constants, constants.equals(
-                Set.of("int UNKNOWN", "int OUTSIDE", "int STATE", "int FULL", "int NONE", "long LOST")));
         Constructor<?>[] made = c.getDeclaredConstructors();
         checks.holds("one constructor, public, without arguments", made.length == 1
                 && Modifier.isPublic(made[0].getModifiers()) && made[0].getParameterCount() == 0);
@@ -81,6 +79,37 @@ public final class FaceTest {
                 checks.holds(m + " has a name of its own", !names.contains(m.getName()));
             }
         }
+    }
+
+    /** Each call takes its numbers by the names that the document tells. */
+    private void namesOfNumbers() throws Exception {
+        String source = Files.readString(SOURCE, StandardCharsets.UTF_8);
+        Matcher head = Pattern.compile("(?m)^    public [\\w ]+\\(.*\\)(?=;$)").matcher(Files.readString(DOC, StandardCharsets.UTF_8));
+        while (head.find()) {
+            checks.holds("the source holds " + head.group().trim(), source.contains("\n" + head.group() + " {\n"));
+        }
+    }
+
+    /** Each with its type and what it is, and no other field that can be seen from outside. */
+    private void constants() throws Exception {
+        Set<String> want = new TreeSet<>();
+        Matcher line = Pattern.compile("(?m)^    public static final (\\w+) (.*);$")
+                .matcher(Files.readString(DOC, StandardCharsets.UTF_8));
+        while (line.find()) {
+            for (String constant : line.group(2).split(", ")) {
+                want.add(line.group(1) + " " + constant.replace("Long.MIN_VALUE", "" + Long.MIN_VALUE));
+            }
+        }
+        checks.due("constants of the document", want.size(), 6);
+        Set<String> constants = new TreeSet<>();
+        for (Field f : DeputyTown.class.getDeclaredFields()) {
+            int m = f.getModifiers();
+            if (!Modifier.isPrivate(m)) {
+                checks.holds(f + " is public, static, final", Modifier.isPublic(m) && Modifier.isStatic(m) && Modifier.isFinal(m));
+                constants.add(f.getType().getName() + " " + f.getName() + " = " + f.get(null));
+            }
+        }
+        checks.holds("the constants are " + constants + ", due are " + want, constants.equals(want));
     }
 
     private void nestedClasses() {
@@ -161,17 +190,61 @@ public final class FaceTest {
     private void lengths() throws Exception {
         String[] lines = bareSource().split("\n");
         for (int from = 0; from < lines.length; from++) {
-            Matcher head = Pattern.compile("^( {4}(?! )| {8}(?! ))[\\w\\[\\] ]+\\([^;]*\\) \\{$").matcher(lines[from]);
-            if (!head.find()) {
+            Matcher head = HEAD.matcher(lines[from]);
+            if (!isHead(head)) {
                 continue;
             }
-            int to = from;
-            while (!lines[to].equals(head.group(1) + "}")) {
-                to++;
-            }
+            int to = endOf(lines, from, head.group(1));
             checks.holds("short: " + lines[from].trim(), to - from < LONGEST_METHOD);
             checks.holds("at most seven parameters: " + lines[from].trim(), lines[from].split(",").length <= 7);
         }
+    }
+
+    private static boolean isHead(Matcher head) {
+        return head.find() && !Set.of("for", "if", "while", "switch").contains(head.group(2));
+    }
+
+    private static int endOf(String[] lines, int from, String indent) {
+        int to = from;
+        while (!lines[to].equals(indent + "}")) {
+            to++;
+        }
+        return to;
+    }
+
+    /** Methods are told apart by their names alone, so what this finds is no less deep than what there is. */
+    private void depth() throws Exception {
+        String[] lines = bareSource().split("\n");
+        Map<String, Set<String>> calls = new TreeMap<>();
+        for (int from = 0; from < lines.length; from++) {
+            Matcher head = HEAD.matcher(lines[from]);
+            if (isHead(head)) {
+                Set<String> called = calls.computeIfAbsent(head.group(2), name -> new TreeSet<>());
+                String body = String.join("\n", Arrays.copyOfRange(lines, from + 1, endOf(lines, from, head.group(1))));
+                Matcher call = Pattern.compile("(?<!Arrays\\.)(?<!System\\.)(?<!Math\\.)(?<!Integer\\.)\\b(\\w+)\\(").matcher(body);
+                while (call.find()) {
+                    called.add(call.group(1));
+                }
+            }
+        }
+        checks.holds("methods found: " + calls.size(), calls.size() > 80);
+        for (String name : calls.keySet()) {
+            int deep = depthOf(name, calls, 1);
+            checks.holds("calls of " + name + " go " + deep + " deep", deep <= DEEPEST_CALL);
+        }
+    }
+
+    /** More than it may be, if methods call one another in a ring. */
+    private static int depthOf(String name, Map<String, Set<String>> calls, int open) {
+        int deepest = open;
+        if (open <= DEEPEST_CALL) {
+            for (String called : calls.get(name)) {
+                if (calls.containsKey(called)) {
+                    deepest = Math.max(deepest, depthOf(called, calls, open + 1));
+                }
+            }
+        }
+        return deepest;
     }
 
     /** All calls of one run live in one room: what a run makes must stay far below it. */
